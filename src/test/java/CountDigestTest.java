@@ -58,6 +58,13 @@ public final class CountDigestTest {
         ChestnutSticks none = new ChestnutSticks();
         Due.is("40: of a new object", none.digest(), byCalls(none));
         Due.that("40: they differ", x.digest() != none.digest());
+        ChestnutSticks late = Due.tree("9999;9999;9999");
+        late.stick(0, 1, 2);
+        late.stick(1, 2, 16);
+        late.toss(0, 1, 10);
+        Due.is("40: where the ends are not 0", late.digest(), byCalls(late));
+        Due.is("21: one that lodges, in it", late.frees(0, 9, 1), 16);
+        Due.is("25: the end, in it", late.ends(3, 0), 21);
         long before = x.digest();
         x.lose(0);
         Due.is("40: a finding does not count", x.digest(), before);

@@ -65,6 +65,10 @@ public final class RunnersTest {
         x.gone();
         x.thrower(4, 0);
         Due.is("29: over the round's end", x.hit(2, 0), 2);
+        x.thrower(1, 0);
+        Due.is("29: in every second", x.hit(1, 0), 4);
+        Due.is("29: the round", x.hit(1, 1), 4);
+        Due.is("28: never", x.run(0, 1), -1);
         x.gone();
         x.thrower(20, 0);
         x.thrower(19, 0);

@@ -8,6 +8,7 @@ public final class ThrowsTest {
         slips();
         lodging();
         lodgesByRow();
+        theFirstSeed();
         lotsAreTakenInOrder();
         laws();
         Due.end("ThrowsTest");
@@ -159,14 +160,55 @@ public final class ThrowsTest {
         x.stick(1, 1, 3);
         x.toss(0, 1, 1);
         Due.is("14: two come down by a long one", x.state(7, 3), 0);
-        x.stick(2, 2, 16);
-        x.set(0, 8);
-        ChestnutSticks y = Due.tree("0");
+        besideTheTree("0", 0);
+        besideTheTree("0;0", 0);
+        besideTheTree("0;0", 8);
+        overTheEdge(7);
+        overTheEdge(8);
+    }
+
+    /** Beside the last column is not the next row's first, nor the other way round. */
+    private static void overTheEdge(int cell) {
+        for (int seed = 0; seed < 30; seed++) {
+            ChestnutSticks y = Due.tree("00000000;00000000");
+            y.set(0, 8);
+            y.stick(0, 2, 16);
+            y.seed(seed);
+            y.toss(0, 0, cell);
+            boolean left = lots(seed, 1)[0] < 8;
+            boolean there = left == (cell == 7);
+            Due.is("14: over the edge, balls, seed " + seed, y.state(1, 4), there ? 1 : 0);
+            Due.is("14: over the edge, lodges, seed " + seed, y.state(1, 3), there ? 1 : 0);
+        }
+    }
+
+    /** One column, and each throw goes left or right of it. */
+    private static void besideTheTree(String text, int cell) {
+        ChestnutSticks y = Due.tree(text);
         y.set(0, 8);
         y.stick(0, 2, 16);
-        y.toss(0, 0, 0);
-        Due.is("14: no ball beside the tree", y.state(1, 0), 1);
-        Due.is("14: it does not lodge beside the tree", y.state(1, 3), 0);
+        y.toss(0, 0, cell);
+        for (int seed = 0; seed < 30; seed++) {
+            y.seed(seed);
+            Due.is("14: no ball beside the tree", y.state(1, 4), 0);
+            Due.is("14: it does not lodge beside the tree", y.state(1, 3), 0);
+            Due.is("13: though it is done", y.judged(), -1);
+        }
+    }
+
+    private static void theFirstSeed() {
+        int[] lots = lots(1, 2);
+        ChestnutSticks x = Due.tree("00000000");
+        x.toss(0, 0, 3);
+        for (int slip = 0; slip <= 8; slip++) {
+            x.set(0, slip);
+            int went = lots[0] < slip ? 2 : lots[0] >= 16 - slip ? 4 : 3;
+            Due.is("1: SEED is 1 at first, by SLIP " + slip, x.hangs(went), -1);
+        }
+        for (int lodges = 0; lodges <= 16; lodges++) {
+            x.stick(0, 2, lodges);
+            Due.is("1: SEED is 1 at first, by LODGES " + lodges, x.state(1, 3), lots[1] < lodges ? 1 : 0);
+        }
     }
 
     private static void lodgesByRow() {

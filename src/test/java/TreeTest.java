@@ -57,6 +57,9 @@ public final class TreeTest {
         Due.is("4: the CELLS behind undo()", x.count(0), 2);
         Due.is("4: type behind undo()", x.type('7'), 3);
         Due.is("3: wipe()", x.wipe(), 3);
+        x.type('7');
+        Due.is("4: undo() of the only one", x.undo(), 0);
+        Due.is("4: no CELLS are left", x.count(0), 0);
         Due.is("3: bytes behind wipe()", x.count(2), 0);
         Due.is("3: CELLS behind wipe()", x.count(0), 0);
         Due.is("3: fault() behind wipe()", x.fault(), -1);

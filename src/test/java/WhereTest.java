@@ -18,6 +18,13 @@ public final class WhereTest {
     }
 
     private static void brings() {
+        ChestnutSticks edge = Due.tree("23");
+        edge.set(1, 0);
+        edge.stick(0, 0, 4);
+        fraction(edge, 0, 0, 0, 1, 1);
+        fraction(edge, 0, 0, 2, 0, 1);
+        fraction(edge, 0, 1, 0, 0, 1);
+        fraction(edge, 0, 1, 2, 1, 1);
         ChestnutSticks x = Due.tree("0350;....");
         x.set(1, 0);
         x.stick(0, 0, 9);
