@@ -64,9 +64,8 @@ public final class SheetsTest {
         Due.is("35: no form, ahead of NULL", x.lay(3, 3, 0, 1), -2);
         Due.is("35: no form", x.lay(0, -1, 0, 1), -2);
         Due.is("35: BAD is no finding", x.count(8), 1);
-        Object[][] gets = {{x.get(0, 1, 0), 3}, {x.get(0, 0, 0), 0}};
-        Due.is("36: CAST", (int) gets[0][0], LEAST);
-        Due.is("36: nothing was laid", (int) gets[1][0], 0);
+        Due.is("36: CAST", x.get(0, 1, 0), LEAST);
+        Due.is("36: nothing was laid", x.get(0, 0, 0), 0);
         Due.is("36: CAST", x.count(8), 3);
         Due.is("36: INDEX", x.get(0, 0, 2), LEAST);
         Due.is("36: INDEX", x.count(8), 2);

@@ -56,7 +56,7 @@ public final class ThrowsTest {
     }
 
     private static void ballsComeDown() {
-        ChestnutSticks x = Due.tree("0123456789".substring(2) + ";" + "9.9.9.9.");
+        ChestnutSticks x = Due.tree("23456789;9.9.9.9.");
         x.set(1, 0);
         x.stick(0, 1, 3);
         x.stick(0, 0, 6);
@@ -230,7 +230,7 @@ public final class ThrowsTest {
     private static void lotsAreTakenInOrder() {
         for (int seed = 0; seed < 60; seed++) {
             int[] lots = lots(seed, 4);
-            ChestnutSticks x = Due.tree("00;...;00".replace("...", ".."));
+            ChestnutSticks x = Due.tree("00;..;00");
             x.seed(seed);
             x.stick(0, 2, 8);
             x.toss(0, 1, 47);
