@@ -1,21 +1,52 @@
+import java.util.ArrayList;
+import java.util.List;
+import java.util.Set;
+import java.util.TreeSet;
+
 /** Counts and prints the calls whose answer is not the one that is due. */
 final class Due {
     private static int wrong = 0;
+    private static String sentence = "";
+    private static final List<String> QUOTED = new ArrayList<>();
+    private static final Set<Integer> PROMISES = new TreeSet<>();
 
     private Due() {
+    }
+
+    /** The words of the document that the checks from here on are for, and the promises that rest on them. */
+    static void sentence(String words, int... promises) {
+        StringBuilder numbers = new StringBuilder();
+        for (int promise : promises) {
+            PROMISES.add(promise);
+            numbers.append(numbers.length() == 0 ? "" : ", ").append(promise);
+        }
+        QUOTED.add(words);
+        sentence = numbers + " '" + words + "': ";
+    }
+
+    static List<String> quoted() {
+        return QUOTED;
+    }
+
+    static Set<Integer> promises() {
+        return PROMISES;
+    }
+
+    static void noSentence() {
+        sentence = "";
     }
 
     static void is(String call, long got, long want) {
         if (got != want) {
             wrong++;
-            System.out.println(call + " answered " + got + ", due is " + want);
+            System.out.println(sentence + call + " answered " + got + ", due is " + want);
         }
     }
 
     static void that(String what, boolean holds) {
         if (!holds) {
             wrong++;
-            System.out.println("does not hold: " + what);
+            System.out.println(sentence + "does not hold: " + what);
         }
     }
 
