@@ -14,6 +14,7 @@ final class EdgesOfCounts {
         digestWraps();
         countsOfTheDigest();
         stateOfAll();
+        numbersOfTheDigest();
         asTheyAreTold();
         lastCall();
     }
@@ -176,6 +177,45 @@ final class EdgesOfCounts {
                 1, 0, 2,
                 5, 0, 1,
                 Integer.MAX_VALUE);
+        Due.is("digest()", x.digest(), due);
+    }
+
+    /** Each number with which the digest asks is such here that the next to it would answer otherwise. */
+    private static void numbersOfTheDigest() {
+        Due.sentence("brings(it, 9, 0 to 3), worth(it, 9) (as they are told), where(); which()", 40);
+        ChestnutSticks x = Due.tree("3..;.03");
+        x.set(0, 4);
+        x.set(1, 0);
+        x.stick(0, 0, 9);
+        x.stick(0, 1, 2);
+        x.stick(1, 2, 16);
+        x.stick(3, 0, 4);
+        x.stick(3, 1, 3);
+        // by SEED 1 the first LOT is 6: it goes to CELL 10 and lodges there, and the ball by 3 stays
+        x.toss(0, 1, 10);
+        x.toss(0, 1, 10);
+        x.thrower(20, 7);
+        x.thrower(20, 11);
+        x.seen(0, 0);
+        int notLeft = 0;
+        for (int seed = 0; seed <= 30; seed++) {
+            notLeft |= Lots.of(seed, 1)[0] >= 4 ? 1 << seed : 0;
+        }
+        long due = hash(
+                6, 3, 7, 2, 1, 2, 1, 0,
+                -1, 1,
+                3, 0, 0, 2, 0,
+                0, 0, 0, 0,
+                3, 4, 3, 4, 0, 8,
+                1, 2, 0, 1, 8, 9,
+                1, 2, 0, 1, 8, 9,
+                3, 4, 1, 1, -4, 8,
+                0, 12,
+                3 * 3367, 4096,
+                1, 3,
+                1 | 1 << 3, 3, 3,
+                8, 6, 20,
+                notLeft);
         Due.is("digest()", x.digest(), due);
     }
 
